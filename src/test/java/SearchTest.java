@@ -1,0 +1,94 @@
+/** Promises 21 to 23: the search for the smallest expression. */
+public final class SearchTest {
+    private static final Due due = new Due("SearchTest");
+
+    public static void main(String[] args) {
+        ordinarySearches();
+        firstMetOfTheSmallest();
+        limit();
+        stateStaysAlone();
+        searchFollowsTheState();
+        due.end();
+    }
+
+    private static void search(long regex, long smallest, int distance, int reachable) {
+        RegexSimplifier x = new RegexSimplifier();
+        due.is("load(" + regex + ")", x.load(regex) > 0 ? 1 : 0, 1);
+        due.is("smallest() of " + regex, x.smallest(), smallest);
+        due.is("smallestDistance() of " + regex, x.smallestDistance(), distance);
+        due.is("reachableCount() of " + regex, x.reachableCount(), reachable);
+        due.is("current() of " + regex, x.current(), regex);
+        due.is("stepCount() of " + regex, x.stepCount(), 0);
+    }
+
+    private static void ordinarySearches() {
+        search(1L, 1L, 0, 1);
+        search(634L, 634L, 0, 1);
+        search(613L, 3L, 1, 2);
+        search(611L, 1L, 1, 2);
+        search(6734735L, 73645L, 1, 2);
+        search(6734734L, 734L, 1, 4);
+        search(8683868384L, 8634L, 5, 11);
+        search(6268283L, 83L, 3, 4);
+        search(888623L, 83L, 3, 6);
+        search(888888888888888883L, 83L, 16, 17);
+    }
+
+    /** Several results have the smallest size; the one of the lower position or rule is met first. */
+    private static void firstMetOfTheSmallest() {
+        search(6723733L, 76233L, 1, 3);
+        search(6732733L, 73623L, 1, 3);
+        search(6733723L, 76323L, 1, 3);
+        search(86742744L, 874624L, 1, 3);
+        search(67337382L, 73632L, 2, 5);
+        search(67447824L, 76424L, 2, 5);
+        search(617675267527545L, 7756245L, 3, 20);
+        search(7728672467247342L, 876234L, 4, 40);
+    }
+
+    private static void limit() {
+        search(87268681821L, 2L, 7, 59);
+        search(6688818811L, 2L, 5, 60);
+        search(8681868811L, -6, -6, -6);
+        search(7878818812L, -6, -6, -6);
+        search(8788186881881L, -6, -6, -6);
+        due.is("the oracle's count of 6688818811", Oracle.met("6688818811", 99).size(), 60);
+        due.is("the oracle's count of 8681868811", Oracle.met("8681868811", 99).size(), 61);
+    }
+
+    private static void stateStaysAlone() {
+        RegexSimplifier x = new RegexSimplifier();
+        x.load(8681868811L);
+        due.is("apply(3, 3)", x.apply(3, 3) > 0 ? 1 : 0, 0);
+        due.is("apply(3, 2)", x.apply(3, 2), 9);
+        long current = x.current();
+        x.smallest();
+        x.smallestDistance();
+        x.reachableCount();
+        due.is("current() after the searches", x.current(), current);
+        due.is("stepCount() after the searches", x.stepCount(), 1);
+        due.is("stepRule(0) after the searches", x.stepRule(0), 3);
+        due.is("stepPosition(0) after the searches", x.stepPosition(0), 2);
+        due.is("undo(1) after the searches", x.undo(1), 0);
+        due.is("current() after undo", x.current(), 8681868811L);
+        due.is("smallest() after undo", x.smallest(), -6);
+    }
+
+    private static void searchFollowsTheState() {
+        RegexSimplifier x = new RegexSimplifier();
+        x.load(8683868384L);
+        due.is("reachableCount()", x.reachableCount(), 11);
+        x.apply(13, 0);
+        due.is("reachableCount() after apply", x.reachableCount(), 8);
+        due.is("smallestDistance() after apply", x.smallestDistance(), 4);
+        x.undo(1);
+        due.is("reachableCount() after undo", x.reachableCount(), 11);
+        x.load(33L);
+        due.is("reachableCount() after an error of load", x.reachableCount(), 11);
+        x.simplify();
+        due.is("smallest() after simplify", x.smallest(), 86368384L);
+        x.load(3L);
+        due.is("smallest() after load", x.smallest(), 3L);
+        due.is("reachableCount() after load", x.reachableCount(), 1);
+    }
+}

@@ -1,0 +1,256 @@
+/** Promises 1 and 12 to 20: the current expression and its steps. */
+public final class StateTest {
+    private static final Due due = new Due("StateTest");
+
+    public static void main(String[] args) {
+        newObject();
+        constants();
+        loading();
+        applying();
+        applyErrors();
+        simplifying();
+        simplifyingFurther();
+        undoing();
+        undoErrors();
+        longestHistory();
+        recordedSteps();
+        applicablePairs();
+        objectsApart();
+        due.end();
+    }
+
+    private static void state(String when, RegexSimplifier x, long current, int... steps) {
+        due.is("current() " + when, x.current(), current);
+        due.is("stepCount() " + when, x.stepCount(), steps.length / 2);
+        for (int index = 0; index < steps.length / 2; index++) {
+            due.is("stepRule(" + index + ") " + when, x.stepRule(index), steps[2 * index]);
+            due.is("stepPosition(" + index + ") " + when, x.stepPosition(index), steps[2 * index + 1]);
+        }
+        int[] outside = {-1, steps.length / 2, 16, 17, 18, Integer.MIN_VALUE, Integer.MAX_VALUE};
+        for (int index : outside) {
+            if (index < 0 || index >= steps.length / 2) {
+                due.is("stepRule(" + index + ") " + when, x.stepRule(index), -5);
+                due.is("stepPosition(" + index + ") " + when, x.stepPosition(index), -5);
+            }
+        }
+    }
+
+    private static void newObject() {
+        RegexSimplifier x = new RegexSimplifier();
+        state("of a new object", x, 1L);
+        due.is("applicableCount() of a new object", x.applicableCount(), 0);
+        due.is("simplify() of a new object", x.simplify(), 0);
+        due.is("undo(0) of a new object", x.undo(0), 0);
+        due.is("undo(1) of a new object", x.undo(1), -5);
+        due.is("smallest() of a new object", x.smallest(), 1);
+        due.is("smallestDistance() of a new object", x.smallestDistance(), 0);
+        due.is("reachableCount() of a new object", x.reachableCount(), 1);
+        state("of a new object after calls", x, 1L);
+    }
+
+    private static void constants() {
+        due.is("MALFORMED", RegexSimplifier.MALFORMED, -1);
+        due.is("NO_SUCH_RULE", RegexSimplifier.NO_SUCH_RULE, -2);
+        due.is("NO_SUCH_POSITION", RegexSimplifier.NO_SUCH_POSITION, -3);
+        due.is("NOT_APPLICABLE", RegexSimplifier.NOT_APPLICABLE, -4);
+        due.is("OUT_OF_RANGE", RegexSimplifier.OUT_OF_RANGE, -5);
+        due.is("LIMIT_EXCEEDED", RegexSimplifier.LIMIT_EXCEEDED, -6);
+        due.is("NONE", RegexSimplifier.NONE, -9);
+    }
+
+    private static void loading() {
+        RegexSimplifier x = new RegexSimplifier();
+        due.is("load(888623)", x.load(888623L), 6);
+        state("after load", x, 888623L);
+        due.is("apply(5, 0)", x.apply(5, 0), 5);
+        for (long number : ExpressionsTest.MALFORMED_NUMBERS) {
+            due.is("load(" + number + ")", x.load(number), -1);
+            state("after load(" + number + ")", x, 88623L, 5, 0);
+        }
+        due.is("load(3)", x.load(3L), 1);
+        state("after another load", x, 3L);
+        due.is("undo(1) after another load", x.undo(1), -5);
+        due.is("load of 18 digits", x.load(888888888888888883L), 18);
+        state("after load of 18 digits", x, 888888888888888883L);
+        x.apply(5, 0);
+        due.is("load of the same again", x.load(88888888888888883L), 17);
+        state("after load of the same again", x, 88888888888888883L);
+    }
+
+    private static void applying() {
+        RegexSimplifier x = new RegexSimplifier();
+        x.load(868384L);
+        due.is("apply(13, 0)", x.apply(13, 0), 5);
+        state("after apply", x, 86384L, 13, 0);
+        due.is("apply(13, 0) again", x.apply(13, 0), 4);
+        state("after apply again", x, 8634L, 13, 0, 13, 0);
+        x.load(76613481L);
+        due.is("apply(3, 6)", x.apply(3, 6), 7);
+        state("after the last position", x, 7661342L, 3, 6);
+        due.is("apply(0, 2)", x.apply(0, 2), 5);
+        state("after an inner position", x, 76342L, 3, 6, 0, 2);
+        due.is("apply(2, 0)", x.apply(2, 0), 3);
+        state("after the root", x, 634L, 3, 6, 0, 2, 2, 0);
+        x.load(63634L);
+        due.is("apply(15, 0)", x.apply(15, 0), 3);
+        state("after rule 15", x, 634L, 15, 0);
+    }
+
+    private static void applyErrors() {
+        RegexSimplifier x = new RegexSimplifier();
+        due.is("apply(16, 1) of a new object", x.apply(16, 1), -2);
+        due.is("apply(0, 1) of a new object", x.apply(0, 1), -3);
+        due.is("apply(0, 0) of a new object", x.apply(0, 0), -4);
+        x.load(61613L);
+        x.apply(0, 2);
+        int[] noRules = {-1, 16, Integer.MIN_VALUE, Integer.MAX_VALUE};
+        for (int rule : noRules) {
+            due.is("apply(" + rule + ", 3)", x.apply(rule, 3), -2);
+            due.is("apply(" + rule + ", -1)", x.apply(rule, -1), -2);
+            due.is("apply(" + rule + ", 0)", x.apply(rule, 0), -2);
+        }
+        int[] noPositions = {-1, 3, 18, Integer.MIN_VALUE, Integer.MAX_VALUE};
+        for (int position : noPositions) {
+            due.is("apply(0, " + position + ")", x.apply(0, position), -3);
+            due.is("apply(15, " + position + ")", x.apply(15, position), -3);
+        }
+        due.is("apply(1, 0)", x.apply(1, 0), -4);
+        due.is("apply(0, 1)", x.apply(0, 1), -4);
+        due.is("apply(15, 2)", x.apply(15, 2), -4);
+        state("after errors of apply", x, 613L, 0, 2);
+        due.is("apply(0, 0)", x.apply(0, 0), 1);
+        state("after them", x, 3L, 0, 2, 0, 0);
+    }
+
+    private static void simplifying() {
+        RegexSimplifier x = new RegexSimplifier();
+        x.load(6268283L);
+        due.is("simplify() of 6268283", x.simplify(), 3);
+        state("after simplify", x, 83L, 3, 3, 15, 0, 8, 0);
+        due.is("simplify() again", x.simplify(), 0);
+        state("after simplify again", x, 83L, 3, 3, 15, 0, 8, 0);
+        x.load(611L);
+        due.is("simplify() of 611", x.simplify(), 1);
+        state("after simplify of 611", x, 1L, 0, 0);
+        x.load(73645L);
+        due.is("simplify() of 73645", x.simplify(), 0);
+        state("after simplify of 73645", x, 73645L);
+        x.load(8683868384L);
+        due.is("simplify() of 8683868384", x.simplify(), 2);
+        state("after simplify of 8683868384", x, 86368384L, 13, 0, 13, 0);
+    }
+
+    /** Steps of simplify come behind those of apply, and only its own are counted. */
+    private static void simplifyingFurther() {
+        RegexSimplifier x = new RegexSimplifier();
+        x.load(888623L);
+        due.is("apply(6, 2)", x.apply(6, 2), 4);
+        due.is("simplify() behind apply", x.simplify(), 2);
+        state("after simplify behind apply", x, 83L, 6, 2, 5, 0, 5, 0);
+        due.is("undo(2)", x.undo(2), 1);
+        state("after undo(2)", x, 8883L, 6, 2);
+        due.is("apply(5, 1)", x.apply(5, 1), 3);
+        state("after apply behind undo", x, 883L, 6, 2, 5, 1);
+        due.is("simplify() behind undo", x.simplify(), 1);
+        state("after simplify behind undo", x, 83L, 6, 2, 5, 1, 5, 0);
+    }
+
+    private static void undoing() {
+        RegexSimplifier x = new RegexSimplifier();
+        x.load(6268283L);
+        x.simplify();
+        due.is("undo(0)", x.undo(0), 3);
+        state("after undo(0)", x, 83L, 3, 3, 15, 0, 8, 0);
+        due.is("undo(1)", x.undo(1), 2);
+        state("after undo(1)", x, 6283L, 3, 3, 15, 0);
+        due.is("undo(2)", x.undo(2), 0);
+        state("after undo(2)", x, 6268283L);
+        due.is("undo(0) of none", x.undo(0), 0);
+        due.is("undo(1) of none", x.undo(1), -5);
+        x.simplify();
+        due.is("undo(stepCount())", x.undo(x.stepCount()), 0);
+        state("after undo(stepCount())", x, 6268283L);
+    }
+
+    private static void undoErrors() {
+        RegexSimplifier x = new RegexSimplifier();
+        x.load(6268283L);
+        x.simplify();
+        int[] counts = {-1, 4, 17, 18, Integer.MIN_VALUE, Integer.MAX_VALUE};
+        for (int count : counts) {
+            due.is("undo(" + count + ")", x.undo(count), -5);
+            state("after undo(" + count + ")", x, 83L, 3, 3, 15, 0, 8, 0);
+        }
+    }
+
+    /** The most steps there can be: 17 of them, from 18 digits to one. */
+    private static void longestHistory() {
+        RegexSimplifier x = new RegexSimplifier();
+        x.load(888888888888888881L);
+        for (int step = 0; step < 17; step++) {
+            due.is("apply(3, last star)", x.apply(3, 16 - step), 17 - step);
+        }
+        due.is("current() at the end", x.current(), 2);
+        due.is("stepCount() at the end", x.stepCount(), 17);
+        due.is("apply(3, 0) at the end", x.apply(3, 0), -4);
+        due.is("stepPosition(0)", x.stepPosition(0), 16);
+        due.is("stepPosition(16)", x.stepPosition(16), 0);
+        due.is("stepRule(16)", x.stepRule(16), 3);
+        due.is("stepRule(17)", x.stepRule(17), -5);
+        due.is("undo(18)", x.undo(18), -5);
+        due.is("undo(16)", x.undo(16), 1);
+        due.is("current() after undo(16)", x.current(), 88888888888888882L);
+        due.is("undo(1)", x.undo(1), 0);
+        due.is("current() after undo(1)", x.current(), 888888888888888881L);
+        due.is("simplify() of 18 digits", x.simplify(), 17);
+        due.is("current() after simplify", x.current(), 2);
+        due.is("undo(17)", x.undo(17), 0);
+        due.is("current() after undo(17)", x.current(), 888888888888888881L);
+    }
+
+    private static void recordedSteps() {
+        RegexSimplifier x = new RegexSimplifier();
+        x.load(666134713L);
+        state("after load", x, 666134713L);
+        due.is("apply(1, 6)", x.apply(1, 6), 7);
+        due.is("apply(0, 2)", x.apply(0, 2), 5);
+        due.is("apply(0, 0)", x.apply(0, 0), 3);
+        state("after three steps", x, 634L, 1, 6, 0, 2, 0, 0);
+    }
+
+    private static void pairs(long regex, int want) {
+        RegexSimplifier x = new RegexSimplifier();
+        x.load(regex);
+        due.is("applicableCount() of " + regex, x.applicableCount(), want);
+        due.is("current() after applicableCount()", x.current(), regex);
+    }
+
+    private static void applicablePairs() {
+        pairs(3L, 0);
+        pairs(634L, 0);
+        pairs(613L, 1);
+        pairs(611L, 2);
+        pairs(81L, 1);
+        pairs(881L, 2);
+        pairs(711L, 1);
+        pairs(712L, 2);
+        pairs(6734734L, 3);
+        pairs(868384L, 1);
+        pairs(888623L, 3);
+        pairs(888888888888888883L, 16);
+        pairs(888888888888888881L, 17);
+        pairs(61613L, 3);
+        pairs(627383L, 1);
+    }
+
+    private static void objectsApart() {
+        RegexSimplifier x = new RegexSimplifier();
+        RegexSimplifier y = new RegexSimplifier();
+        x.load(613L);
+        y.load(883L);
+        due.is("apply(0, 0) of one", x.apply(0, 0), 1);
+        due.is("apply(5, 0) of the other", y.apply(5, 0), 2);
+        state("of one", x, 3L, 0, 0);
+        state("of the other", y, 83L, 5, 0);
+    }
+}
