@@ -399,8 +399,8 @@ public final class RegexSimplifier {
     }
 
     /**
-     * The 16 rules. Of each, the function below gives what the node is replaced by, or NO_CODE where
-     * no left side of the rule fits the operands.
+     * The 16 rules. A rule's function gives what the node is replaced by, or NO_CODE where none of the
+     * rule's left sides fits the operands.
      */
     private static final class Rules {
         private static final int[] ROOT_KINDS = {
@@ -761,7 +761,7 @@ public final class RegexSimplifier {
             telling = NONE;
             meet(Automaton.START, Automaton.START, 0, 0);
             checkLatest(first, second);
-            for (int pair = 0; pair < pairs && telling == NONE; pair++) {
+            for (int pair = 0; pair < pairs && pair < MOST_PAIRS && telling == NONE; pair++) {
                 expand(first, second, pair);
             }
         }
@@ -851,7 +851,7 @@ public final class RegexSimplifier {
             met[0] = origin;
             distances[0] = 0;
             count = 1;
-            for (int index = 0; index < count; index++) {
+            for (int index = 0; index < count && index < MOST_MET; index++) {
                 if (!expand(index)) {
                     return false;
                 }
@@ -901,7 +901,7 @@ public final class RegexSimplifier {
 
         /** False if the expression is new and there is no room left for it. */
         private boolean meet(long code, int distance) {
-            for (int index = 0; index < count; index++) {
+            for (int index = 0; index < count && index < MOST_MET; index++) {
                 if (met[index] == code) {
                     return true;
                 }
