@@ -63,10 +63,8 @@ public final class StateTest {
         due.is("load(888623)", x.load(888623L), 6);
         state("after load", x, 888623L);
         due.is("apply(5, 0)", x.apply(5, 0), 5);
-        for (long number : ExpressionsTest.MALFORMED_NUMBERS) {
-            due.is("load(" + number + ")", x.load(number), -1);
-            state("after load(" + number + ")", x, 88623L, 5, 0);
-        }
+        due.is("load(33)", x.load(33L), -1);
+        state("after load(33)", x, 88623L, 5, 0);
         due.is("load(3)", x.load(3L), 1);
         state("after another load", x, 3L);
         due.is("undo(1) after another load", x.undo(1), -5);
