@@ -78,7 +78,7 @@ public final class Boundaries01To07Test {
 
     private static void p02Malformed() {
         due.sentence("Promise 2", "Returns its size, 1 to 18; MALFORMED.");
-        for (long number : ExpressionsTest.MALFORMED_NUMBERS) {
+        for (long number : Expressions.MALFORMED) {
             due.is("size(" + number + ")", new RegexSimplifier().size(number), -1);
         }
     }
@@ -116,7 +116,7 @@ public final class Boundaries01To07Test {
 
     private static void p03Malformed() {
         due.sentence("Promise 3", "Returns its star height; MALFORMED.");
-        for (long number : ExpressionsTest.MALFORMED_NUMBERS) {
+        for (long number : Expressions.MALFORMED) {
             starHeight(number, -1);
         }
     }
@@ -141,7 +141,7 @@ public final class Boundaries01To07Test {
 
     private static void p04Malformed() {
         due.sentence("Promise 4", "Returns 1 if it does, 0 if it does not; MALFORMED.");
-        for (long number : ExpressionsTest.MALFORMED_NUMBERS) {
+        for (long number : Expressions.MALFORMED) {
             emptyWord(number, -1);
         }
     }
@@ -188,7 +188,7 @@ public final class Boundaries01To07Test {
     private static void p05Malformed() {
         due.sentence("Promise 5", "Returns the number of matched words; MALFORMED");
         int[] lengths = {0, 6, -1, 7};
-        for (long number : ExpressionsTest.MALFORMED_NUMBERS) {
+        for (long number : Expressions.MALFORMED) {
             for (int length : lengths) {
                 words(number, length, -1);
             }
@@ -244,7 +244,7 @@ public final class Boundaries01To07Test {
 
     private static void p06EitherIsMalformed() {
         due.sentence("Promise 6", "MALFORMED if either parameter is malformed");
-        for (long number : ExpressionsTest.MALFORMED_NUMBERS) {
+        for (long number : Expressions.MALFORMED) {
             length(number, 3L, -1);
             length(3L, number, -1);
             length(number, number, -1);
@@ -313,7 +313,7 @@ public final class Boundaries01To07Test {
 
     private static void p07EitherIsMalformed() {
         due.sentence("Promise 7", "MALFORMED if either expression is malformed");
-        for (long number : ExpressionsTest.MALFORMED_NUMBERS) {
+        for (long number : Expressions.MALFORMED) {
             symbol(number, 3L, 0, -1);
             symbol(3L, number, 0, -1);
             symbol(number, number, 0, -1);

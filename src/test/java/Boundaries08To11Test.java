@@ -57,7 +57,7 @@ public final class Boundaries08To11Test {
 
     private static void p08Malformed() {
         due.sentence("Promise 8", "Returns 1 if it is applicable, 0 if it is not; MALFORMED; NO_SUCH_RULE; NO_SUCH_POSITION.");
-        for (long number : ExpressionsTest.MALFORMED_NUMBERS) {
+        for (long number : Expressions.MALFORMED) {
             applicable(Long.toString(number), 0, 0, -1);
             applicable(Long.toString(number), 16, 0, -1);
             applicable(Long.toString(number), 0, -1, -1);
@@ -122,7 +122,7 @@ public final class Boundaries08To11Test {
 
     private static void p09Malformed() {
         due.sentence("Promise 9", "Returns the encoded result; MALFORMED");
-        for (long number : ExpressionsTest.MALFORMED_NUMBERS) {
+        for (long number : Expressions.MALFORMED) {
             rewritten(Long.toString(number), 0, 0, -1);
             rewritten(Long.toString(number), 16, 0, -1);
             rewritten(Long.toString(number), 0, -1, -1);
@@ -192,7 +192,7 @@ public final class Boundaries08To11Test {
 
     private static void p10Malformed() {
         due.sentence("Promise 10", "Returns that position; MALFORMED");
-        for (long number : ExpressionsTest.MALFORMED_NUMBERS) {
+        for (long number : Expressions.MALFORMED) {
             due.is("firstPosition(" + number + ")", new RegexSimplifier().firstPosition(number), -1);
         }
     }
@@ -228,7 +228,7 @@ public final class Boundaries08To11Test {
 
     private static void p11Malformed() {
         due.sentence("Promise 11", "Returns that rule; MALFORMED");
-        for (long number : ExpressionsTest.MALFORMED_NUMBERS) {
+        for (long number : Expressions.MALFORMED) {
             due.is("firstRule(" + number + ")", new RegexSimplifier().firstRule(number), -1);
         }
     }

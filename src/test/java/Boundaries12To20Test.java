@@ -92,7 +92,7 @@ public final class Boundaries12To20Test {
 
     private static void p12Malformed() {
         due.sentence("Promise 12", "Returns its size; MALFORMED.");
-        for (long number : ExpressionsTest.MALFORMED_NUMBERS) {
+        for (long number : Expressions.MALFORMED) {
             RegexSimplifier x = simplified(6268283L);
             due.is("load(" + number + ")", x.load(number), -1);
             new Model(6268283L, FIRST, SECOND, THIRD).check(due, "after load(" + number + ")", x);

@@ -3,6 +3,16 @@ import java.util.List;
 
 /** Makes expressions for tests: all of a size, or a long row that is the same in every run. */
 final class Expressions {
+    /** Zero, negative, wrong digits, too short, too long, more than 18 digits. */
+    static final long[] MALFORMED = {
+        0L, -1L, -3L, -83L, Long.MIN_VALUE, Long.MAX_VALUE, 9L, 10L, 30L, 93L, 39L, 303L, 603L, 630L, 693L, 803L,
+        6L, 7L, 8L, 66L, 88L, 63L, 73L, 68L, 78L, 634634L, 33L, 12L, 6345L, 7345L, 835L, 366L, 836L, 6683L,
+        934L, 9345L, 60345L, 69345L, 804L, 8034L, 8934L, 890L,
+        999999999999999999L, 888888888888888888L, 666666666666666666L, 1000000000000000000L,
+        1000000000000000003L, 8888888888888888883L, 3333333333333333333L, 8888888888888888888L,
+        6634634634634634634L, 100000000000000000L, 633333333333333333L,
+    };
+
     private long seed;
 
     Expressions(long seed) {

@@ -9,8 +9,6 @@ public final class RulesTest {
         everyLeftSideWithLargerParts();
         innerPositions();
         firstSteps();
-        errorsInOrder();
-        stateStaysAlone();
         due.end();
     }
 
@@ -221,48 +219,5 @@ public final class RulesTest {
         first("66838384", 1, 4);
         first("888888888888888883", 0, 5);
         first("766666633333348881", 6, 4);
-    }
-
-    private static void errorsInOrder() {
-        RegexSimplifier x = new RegexSimplifier();
-        for (long number : ExpressionsTest.MALFORMED_NUMBERS) {
-            due.is("isApplicable(" + number + ", 16, -1)", x.isApplicable(number, 16, -1), -1);
-            due.is("rewrite(" + number + ", -1, 18)", x.rewrite(number, -1, 18), -1);
-            due.is("rewrite(" + number + ", 0, 0)", x.rewrite(number, 0, 0), -1);
-            due.is("firstPosition(" + number + ")", x.firstPosition(number), -1);
-            due.is("firstRule(" + number + ")", x.firstRule(number), -1);
-        }
-        int[] noRules = {-1, 16, 17, Integer.MIN_VALUE, Integer.MAX_VALUE};
-        for (int rule : noRules) {
-            due.is("isApplicable(613, " + rule + ", 3)", x.isApplicable(613L, rule, 3), -2);
-            due.is("isApplicable(613, " + rule + ", 0)", x.isApplicable(613L, rule, 0), -2);
-            due.is("rewrite(613, " + rule + ", -1)", x.rewrite(613L, rule, -1), -2);
-            due.is("rewrite(613, " + rule + ", 0)", x.rewrite(613L, rule, 0), -2);
-        }
-        int[] noPositions = {-1, 3, 17, 18, 19, Integer.MIN_VALUE, Integer.MAX_VALUE};
-        for (int position : noPositions) {
-            due.is("isApplicable(613, 0, " + position + ")", x.isApplicable(613L, 0, position), -3);
-            due.is("isApplicable(613, 15, " + position + ")", x.isApplicable(613L, 15, position), -3);
-            due.is("rewrite(613, 0, " + position + ")", x.rewrite(613L, 0, position), -3);
-            due.is("rewrite(613, 15, " + position + ")", x.rewrite(613L, 15, position), -3);
-        }
-        due.is("isApplicable(888888888888888883, 0, 18)", x.isApplicable(888888888888888883L, 0, 18), -3);
-        due.is("rewrite(888888888888888883, 5, 18)", x.rewrite(888888888888888883L, 5, 18), -3);
-        due.is("rewrite(613, 0, 2)", x.rewrite(613L, 0, 2), -4);
-        due.is("rewrite(613, 15, 0)", x.rewrite(613L, 15, 0), -4);
-    }
-
-    private static void stateStaysAlone() {
-        RegexSimplifier x = new RegexSimplifier();
-        x.load(888623L);
-        x.apply(5, 1);
-        x.rewrite(613L, 0, 0);
-        x.isApplicable(613L, 0, 0);
-        x.firstRule(613L);
-        x.firstPosition(613L);
-        due.is("current() after rewrite", x.current(), 88623L);
-        due.is("stepCount() after rewrite", x.stepCount(), 1);
-        due.is("stepRule(0) after rewrite", x.stepRule(0), 5);
-        due.is("stepPosition(0) after rewrite", x.stepPosition(0), 1);
     }
 }

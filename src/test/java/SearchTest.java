@@ -5,8 +5,6 @@ public final class SearchTest {
     public static void main(String[] args) {
         ordinarySearches();
         firstMetOfTheSmallest();
-        limit();
-        stateStaysAlone();
         searchFollowsTheState();
         due.end();
     }
@@ -44,34 +42,6 @@ public final class SearchTest {
         search(67447824L, 76424L, 2, 5);
         search(617675267527545L, 7756245L, 3, 20);
         search(7728672467247342L, 876234L, 4, 40);
-    }
-
-    private static void limit() {
-        search(87268681821L, 2L, 7, 59);
-        search(6688818811L, 2L, 5, 60);
-        search(8681868811L, -6, -6, -6);
-        search(7878818812L, -6, -6, -6);
-        search(8788186881881L, -6, -6, -6);
-        due.is("the oracle's count of 6688818811", Oracle.met("6688818811", 99).size(), 60);
-        due.is("the oracle's count of 8681868811", Oracle.met("8681868811", 99).size(), 61);
-    }
-
-    private static void stateStaysAlone() {
-        RegexSimplifier x = new RegexSimplifier();
-        x.load(8681868811L);
-        due.is("apply(3, 3)", x.apply(3, 3) > 0 ? 1 : 0, 0);
-        due.is("apply(3, 2)", x.apply(3, 2), 9);
-        long current = x.current();
-        x.smallest();
-        x.smallestDistance();
-        x.reachableCount();
-        due.is("current() after the searches", x.current(), current);
-        due.is("stepCount() after the searches", x.stepCount(), 1);
-        due.is("stepRule(0) after the searches", x.stepRule(0), 3);
-        due.is("stepPosition(0) after the searches", x.stepPosition(0), 2);
-        due.is("undo(1) after the searches", x.undo(1), 0);
-        due.is("current() after undo", x.current(), 8681868811L);
-        due.is("smallest() after undo", x.smallest(), -6);
     }
 
     private static void searchFollowsTheState() {

@@ -4,15 +4,11 @@ public final class StateTest {
 
     public static void main(String[] args) {
         newObject();
-        constants();
         loading();
         applying();
-        applyErrors();
         simplifying();
         simplifyingFurther();
         undoing();
-        undoErrors();
-        longestHistory();
         recordedSteps();
         applicablePairs();
         objectsApart();
@@ -46,16 +42,6 @@ public final class StateTest {
         due.is("smallestDistance() of a new object", x.smallestDistance(), 0);
         due.is("reachableCount() of a new object", x.reachableCount(), 1);
         state("of a new object after calls", x, 1L);
-    }
-
-    private static void constants() {
-        due.is("MALFORMED", RegexSimplifier.MALFORMED, -1);
-        due.is("NO_SUCH_RULE", RegexSimplifier.NO_SUCH_RULE, -2);
-        due.is("NO_SUCH_POSITION", RegexSimplifier.NO_SUCH_POSITION, -3);
-        due.is("NOT_APPLICABLE", RegexSimplifier.NOT_APPLICABLE, -4);
-        due.is("OUT_OF_RANGE", RegexSimplifier.OUT_OF_RANGE, -5);
-        due.is("LIMIT_EXCEEDED", RegexSimplifier.LIMIT_EXCEEDED, -6);
-        due.is("NONE", RegexSimplifier.NONE, -9);
     }
 
     private static void loading() {
@@ -92,32 +78,6 @@ public final class StateTest {
         x.load(63634L);
         due.is("apply(15, 0)", x.apply(15, 0), 3);
         state("after rule 15", x, 634L, 15, 0);
-    }
-
-    private static void applyErrors() {
-        RegexSimplifier x = new RegexSimplifier();
-        due.is("apply(16, 1) of a new object", x.apply(16, 1), -2);
-        due.is("apply(0, 1) of a new object", x.apply(0, 1), -3);
-        due.is("apply(0, 0) of a new object", x.apply(0, 0), -4);
-        x.load(61613L);
-        x.apply(0, 2);
-        int[] noRules = {-1, 16, Integer.MIN_VALUE, Integer.MAX_VALUE};
-        for (int rule : noRules) {
-            due.is("apply(" + rule + ", 3)", x.apply(rule, 3), -2);
-            due.is("apply(" + rule + ", -1)", x.apply(rule, -1), -2);
-            due.is("apply(" + rule + ", 0)", x.apply(rule, 0), -2);
-        }
-        int[] noPositions = {-1, 3, 18, Integer.MIN_VALUE, Integer.MAX_VALUE};
-        for (int position : noPositions) {
-            due.is("apply(0, " + position + ")", x.apply(0, position), -3);
-            due.is("apply(15, " + position + ")", x.apply(15, position), -3);
-        }
-        due.is("apply(1, 0)", x.apply(1, 0), -4);
-        due.is("apply(0, 1)", x.apply(0, 1), -4);
-        due.is("apply(15, 2)", x.apply(15, 2), -4);
-        state("after errors of apply", x, 613L, 0, 2);
-        due.is("apply(0, 0)", x.apply(0, 0), 1);
-        state("after them", x, 3L, 0, 2, 0, 0);
     }
 
     private static void simplifying() {
@@ -168,42 +128,6 @@ public final class StateTest {
         x.simplify();
         due.is("undo(stepCount())", x.undo(x.stepCount()), 0);
         state("after undo(stepCount())", x, 6268283L);
-    }
-
-    private static void undoErrors() {
-        RegexSimplifier x = new RegexSimplifier();
-        x.load(6268283L);
-        x.simplify();
-        int[] counts = {-1, 4, 17, 18, Integer.MIN_VALUE, Integer.MAX_VALUE};
-        for (int count : counts) {
-            due.is("undo(" + count + ")", x.undo(count), -5);
-            state("after undo(" + count + ")", x, 83L, 3, 3, 15, 0, 8, 0);
-        }
-    }
-
-    /** The most steps there can be: 17 of them, from 18 digits to one. */
-    private static void longestHistory() {
-        RegexSimplifier x = new RegexSimplifier();
-        x.load(888888888888888881L);
-        for (int step = 0; step < 17; step++) {
-            due.is("apply(3, last star)", x.apply(3, 16 - step), 17 - step);
-        }
-        due.is("current() at the end", x.current(), 2);
-        due.is("stepCount() at the end", x.stepCount(), 17);
-        due.is("apply(3, 0) at the end", x.apply(3, 0), -4);
-        due.is("stepPosition(0)", x.stepPosition(0), 16);
-        due.is("stepPosition(16)", x.stepPosition(16), 0);
-        due.is("stepRule(16)", x.stepRule(16), 3);
-        due.is("stepRule(17)", x.stepRule(17), -5);
-        due.is("undo(18)", x.undo(18), -5);
-        due.is("undo(16)", x.undo(16), 1);
-        due.is("current() after undo(16)", x.current(), 88888888888888882L);
-        due.is("undo(1)", x.undo(1), 0);
-        due.is("current() after undo(1)", x.current(), 888888888888888881L);
-        due.is("simplify() of 18 digits", x.simplify(), 17);
-        due.is("current() after simplify", x.current(), 2);
-        due.is("undo(17)", x.undo(17), 0);
-        due.is("current() after undo(17)", x.current(), 888888888888888881L);
     }
 
     private static void recordedSteps() {
