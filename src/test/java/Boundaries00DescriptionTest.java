@@ -123,8 +123,8 @@ public final class Boundaries00DescriptionTest {
         due.sentence("Description", "or negative");
         Taker.allRefuse(due, -1L, -2L, -3L, -5L, -9L, -83L, -634L, -8634L, -888888888888888883L);
         Taker.allRefuse(due, -616161616161616181L, -1000000000000000000L, Integer.MIN_VALUE, Long.MIN_VALUE, Long.MIN_VALUE + 1);
-        // Digits by remainders of negative numbers, or a sign that is dropped, would find these well formed.
-        Taker.allRefuse(due, -999999999999999917L, -9223372036854775725L, -4294967213L);
+        // 83 is what these are without their upper bits, without the sign bit and modulo 10 to the 18th.
+        Taker.allRefuse(due, -4294967213L, -9223372036854775725L, -999999999999999917L);
     }
 
     private static void notExactlyOneSuchExpression() {
@@ -133,7 +133,7 @@ public final class Boundaries00DescriptionTest {
         Taker.allRefuse(due, 33L, 366L, 836L, 6343L, 8383L, 634634L, 633333333333333333L, 888888888888888833L);
         Taker.allRefuse(due, 9L, 93L, 934L, 694L, 649L, 89L, 893L, 86349L, 9634L, 888888888888888889L);
         Taker.allRefuse(due, 10L, 30L, 80L, 803L, 604L, 640L, 6034L, 6304L, 6340L, 8630L, 888888888888888880L);
-        Taker.allRefuse(due, 100000000000000000L, 999999999999999999L, 600000000000000034L);
+        Taker.allRefuse(due, 100000000000000000L, 999999999999999999L, 600000000000000034L, 4294967379L);
     }
 
     private static void moreThan18Digits() {
