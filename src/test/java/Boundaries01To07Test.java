@@ -26,6 +26,7 @@ public final class Boundaries01To07Test {
         p06NoneIfEquivalent();
         p07FirstInLexicographicOrder();
         p07IndexFrom0();
+        p07SymbolFrom0To2();
         p07EitherIsMalformed();
         p07NoneWhateverIndexIs();
         p07NoSuchIndex();
@@ -165,7 +166,7 @@ public final class Boundaries01To07Test {
     }
 
     private static void p05LengthFrom0To6() {
-        due.sentence("Promise 5", "the length of the words, 0 to 6");
+        due.sentence("Promise 5", "`length`: the length of the words, 0 to 6");
         words(1L, 0, 0);
         words(1L, 6, 0);
         words(2L, 0, 1);
@@ -303,12 +304,25 @@ public final class Boundaries01To07Test {
     }
 
     private static void p07IndexFrom0() {
-        due.sentence("Promise 7", "the index of a symbol in that word, from 0");
+        due.sentence("Promise 7", "`index`: the index of a symbol in that word, from 0");
         word(73745L, 1L, "abc");
         word(75743L, 1L, "cba");
         word(75757575757575754L, 1L, "ccccccccb");
         word(74757575757575755L, 1L, "bcccccccc");
         word(637368733737733733L, 76873387377733333L, "aaaaaaaaaaaaaaaa");
+    }
+
+    private static void p07SymbolFrom0To2() {
+        due.sentence("Promise 7", "Returns the symbol, 0 to 2");
+        symbol(3L, 1L, 0, 0);
+        symbol(4L, 1L, 0, 1);
+        symbol(5L, 1L, 0, 2);
+        for (int index = 0; index < 9; index++) {
+            symbol(NINE_AS, 1L, index, 0);
+            symbol(74747474747474744L, 1L, index, 1);
+            symbol(75757575757575755L, 1L, index, 2);
+            symbol(73747573747573745L, 1L, index, new int[] {0, 1, 2, 0, 1, 2, 0, 1, 2}[index]);
+        }
     }
 
     private static void p07EitherIsMalformed() {

@@ -18,6 +18,8 @@ public final class Boundaries08To11Test {
         p08NoSuchPosition();
         p09CurrentIsNotInvolved();
         p09EncodedResult();
+        p09RuleFrom0To15();
+        p09PositionOfANode();
         p09Malformed();
         p09NoSuchRule();
         p09NoSuchPosition();
@@ -65,7 +67,7 @@ public final class Boundaries08To11Test {
     }
 
     private static void p08NoSuchRule() {
-        due.sentence("Promise 8", "the number of a rule, 0 to 15");
+        due.sentence("Promise 8", "`rule`: the number of a rule, 0 to 15");
         applicable("613", 0, 0, 1);
         applicable("63634", 15, 0, 1);
         for (int rule : NO_RULES) {
@@ -78,7 +80,7 @@ public final class Boundaries08To11Test {
     }
 
     private static void p08NoSuchPosition() {
-        due.sentence("Promise 8", "the position of a node");
+        due.sentence("Promise 8", "`position`: the position of a node");
         String[] texts = {"1", "613", "63634", LAST_STEP, "888888888888888883"};
         for (String text : texts) {
             applicable(text, 8, 0, 0);
@@ -118,6 +120,31 @@ public final class Boundaries08To11Test {
         rewritten("888888888888888885", 5, 15, 88888888888888885L);
         rewritten(LAST_STEP, 3, 16, 73737373737373732L);
         rewritten("618888888888888885", 0, 0, 8888888888888885L);
+    }
+
+    private static void p09RuleFrom0To15() {
+        due.sentence("Promise 9", "`rule`: the number of a rule, 0 to 15");
+        long[] results = {3L, 1L, 3L, 2L, 3L, 83L, 83L, 83L,
+            83L, 83L, 73645L, 76345L, 83L, 8634L, 8634L, 634L};
+        for (int rule = 0; rule < 16; rule++) {
+            rewritten(ONE_RULE[rule], rule, 0, results[rule]);
+            rewritten(ONE_RULE[rule], -1, 0, -2);
+            rewritten(ONE_RULE[rule], 16, 0, -2);
+        }
+    }
+
+    private static void p09PositionOfANode() {
+        due.sentence("Promise 9", "`position`: the position of a node");
+        for (int position = 0; position < 17; position++) {
+            rewritten("888888888888888881", 5, position, position < 16 ? 88888888888888881L : -4);
+            rewritten("888888888888888881", 3, position, position < 16 ? -4 : 88888888888888882L);
+        }
+        rewritten("888888888888888881", 5, 17, -4);
+        rewritten("888888888888888881", 5, 18, -3);
+        rewritten("888888888888888881", 5, -1, -3);
+        rewritten("6613641", 0, 0, -4);
+        rewritten("6613641", 0, 1, 63641L);
+        rewritten("6613641", 0, 4, 66134L);
     }
 
     private static void p09Malformed() {

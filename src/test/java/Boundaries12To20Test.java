@@ -18,6 +18,7 @@ public final class Boundaries12To20Test {
         p12Malformed();
         p13CurrentExpression();
         p14RecordsTheStep();
+        p14RuleFrom0To15();
         p14SizeOfTheNewCurrent();
         p14NoSuchRule();
         p14NoSuchPosition();
@@ -137,6 +138,19 @@ public final class Boundaries12To20Test {
         due.is("stepPosition(16) after 17 steps", longest.stepPosition(16), 0);
     }
 
+    private static void p14RuleFrom0To15() {
+        due.sentence("Promise 14", "`rule`: the number of a rule, 0 to 15");
+        long[] expressions = {613L, 713L, 723L, 81L, 633L, 883L, 8623L, 78383L,
+            6283L, 6383L, 6734735L, 6735745L, 627383L, 86834L, 878384L, 63634L};
+        int[] sizes = {1, 1, 1, 1, 1, 2, 2, 2, 2, 2, 5, 5, 2, 4, 4, 3};
+        for (int rule = 0; rule < 16; rule++) {
+            String of = ", 0) of " + expressions[rule];
+            due.is("apply(-1" + of, loaded(expressions[rule]).apply(-1, 0), -2);
+            due.is("apply(16" + of, loaded(expressions[rule]).apply(16, 0), -2);
+            due.is("apply(" + rule + of, loaded(expressions[rule]).apply(rule, 0), sizes[rule]);
+        }
+    }
+
     private static void p14SizeOfTheNewCurrent() {
         due.sentence("Promise 14", "Returns the size of the new current expression");
         RegexSimplifier x = loaded(LONGEST);
@@ -162,7 +176,7 @@ public final class Boundaries12To20Test {
 
     /** The positions are those of the current expression, not of the one that was loaded. */
     private static void p14NoSuchPosition() {
-        due.sentence("Promise 14", "the position of a node of the current expression");
+        due.sentence("Promise 14", "`position`: the position of a node of the current expression");
         due.is("apply(0, 1) of a new object", new RegexSimplifier().apply(0, 1), -3);
         due.is("apply(0, -1) of a new object", new RegexSimplifier().apply(0, -1), -3);
         due.is("apply(0, 17) of 18 digits", loaded(LONGEST).apply(0, 17), -4);
@@ -275,7 +289,7 @@ public final class Boundaries12To20Test {
     }
 
     private static void p16From0ToStepCount() {
-        due.sentence("Promise 16", "how many steps to take back, 0 to stepCount()");
+        due.sentence("Promise 16", "`count`: how many steps to take back, 0 to stepCount()");
         for (int count = 0; count <= 17; count++) {
             RegexSimplifier x = simplified(LONGEST);
             due.is("undo(" + count + ") of 17", x.undo(count), 17 - count);
@@ -365,7 +379,7 @@ public final class Boundaries12To20Test {
     }
 
     private static void p18IndexFrom0ForTheOldest() {
-        due.sentence("Promise 18", "the index of the step, from 0 for the oldest");
+        due.sentence("Promise 18", "`index`: the index of the step, from 0 for the oldest");
         RegexSimplifier x = simplified(6268283L);
         due.is("stepRule(0)", x.stepRule(0), 3);
         due.is("stepRule(1)", x.stepRule(1), 15);
@@ -400,7 +414,7 @@ public final class Boundaries12To20Test {
     }
 
     private static void p19IndexFrom0ForTheOldest() {
-        due.sentence("Promise 19", "the index of the step, from 0 for the oldest");
+        due.sentence("Promise 19", "`index`: the index of the step, from 0 for the oldest");
         RegexSimplifier x = seventeenSteps();
         for (int index = 0; index < 17; index++) {
             due.is("stepPosition(" + index + ")", x.stepPosition(index), 16 - index);

@@ -20,6 +20,7 @@ public final class ExpressionsTest {
     }
 
     private static void sizes() {
+        due.sentence("Promise 2", "Returns the number of digits of an expression.");
         for (long leaf = 1; leaf <= 5; leaf++) {
             size(leaf, 1);
         }
@@ -44,6 +45,7 @@ public final class ExpressionsTest {
     }
 
     private static void starHeights() {
+        due.sentence("Promise 3", "Returns how deeply stars are nested:");
         starHeight(3L, 0);
         starHeight(66345L, 0);
         starHeight(81L, 1);
@@ -61,6 +63,7 @@ public final class ExpressionsTest {
     }
 
     private static void emptyWords() {
+        due.sentence("Promise 4", "Tells whether an expression matches the empty word.");
         emptyWord(1L, 0);
         emptyWord(2L, 1);
         emptyWord(3L, 0);
@@ -90,6 +93,7 @@ public final class ExpressionsTest {
     }
 
     private static void countedWords() {
+        due.sentence("Promise 5", "Returns the number of matched words");
         counts(1L, 0, 0, 0, 0, 0, 0, 0);
         counts(2L, 1, 0, 0, 0, 0, 0, 0);
         counts(5L, 0, 1, 0, 0, 0, 0, 0);
@@ -130,6 +134,7 @@ public final class ExpressionsTest {
     }
 
     private static void differenceLengths() {
+        due.sentence("Promise 6", "Returns the length of the shortest word that exactly one of two expressions matches.");
         difference(1L, 1L, null);
         difference(1L, 2L, "");
         difference(2L, 83L, "a");
@@ -148,6 +153,7 @@ public final class ExpressionsTest {
     }
 
     private static void differenceSymbols() {
+        due.sentence("Promise 7", "Returns one symbol of the difference word:");
         difference(3L, 4L, "a");
         difference(4L, 5L, "b");
         difference(3L, 1L, "a");

@@ -5,7 +5,9 @@ import java.lang.reflect.Modifier;
 import java.nio.charset.StandardCharsets;
 import java.nio.file.Files;
 import java.nio.file.Path;
+import java.util.List;
 import java.util.Set;
+import java.util.StringJoiner;
 import java.util.TreeSet;
 import java.util.regex.Matcher;
 import java.util.regex.Pattern;
@@ -15,56 +17,106 @@ public final class FaceTest {
     private static final Due due = new Due("FaceTest");
     private static final Path SOURCE = Path.of("src/main/java/RegexSimplifier.java");
 
-    private static final Set<String> METHODS = Set.of(
-        "int size(long)", "int starHeight(long)", "int matchesEmptyWord(long)", "int countWords(long,int)",
-        "int differenceLength(long,long)", "int differenceSymbol(long,long,int)",
-        "int isApplicable(long,int,int)", "long rewrite(long,int,int)", "int firstPosition(long)",
-        "int firstRule(long)", "int load(long)", "long current()", "int apply(int,int)", "int simplify()",
-        "int undo(int)", "int stepCount()", "int stepRule(int)", "int stepPosition(int)",
-        "int applicableCount()", "long smallest()", "int smallestDistance()", "int reachableCount()");
+    /** As the document has them and in its order: the first one is promise 2. */
+    private static final List<String> METHODS = List.of(
+        "int size(long regex)", "int starHeight(long regex)", "int matchesEmptyWord(long regex)",
+        "int countWords(long regex, int length)", "int differenceLength(long first, long second)",
+        "int differenceSymbol(long first, long second, int index)",
+        "int isApplicable(long regex, int rule, int position)", "long rewrite(long regex, int rule, int position)",
+        "int firstPosition(long regex)", "int firstRule(long regex)", "int load(long regex)", "long current()",
+        "int apply(int rule, int position)", "int simplify()", "int undo(int count)", "int stepCount()",
+        "int stepRule(int index)", "int stepPosition(int index)", "int applicableCount()", "long smallest()",
+        "int smallestDistance()", "int reachableCount()");
 
-    private static final Set<String> CONSTANTS = Set.of(
-        "MALFORMED", "NO_SUCH_RULE", "NO_SUCH_POSITION", "NOT_APPLICABLE", "OUT_OF_RANGE", "LIMIT_EXCEEDED", "NONE");
+    private static final List<String> CONSTANTS = List.of(
+        "MALFORMED = -1", "NO_SUCH_RULE = -2", "NO_SUCH_POSITION = -3", "NOT_APPLICABLE = -4", "OUT_OF_RANGE = -5",
+        "LIMIT_EXCEEDED = -6", "NONE = -9");
 
     public static void main(String[] args) throws Exception {
-        face();
+        String source = Files.readString(SOURCE, StandardCharsets.US_ASCII);
         nestedClasses();
-        text();
+        text(source);
+        classLine(source);
+        constants(source);
+        constructor(source);
+        methods(source);
         due.end();
     }
 
-    private static void face() {
-        Class<?> type = RegexSimplifier.class;
-        due.holds("public and final", Modifier.isPublic(type.getModifiers()) && Modifier.isFinal(type.getModifiers()));
-        Set<String> methods = new TreeSet<>();
-        for (Method method : type.getDeclaredMethods()) {
-            if (!Modifier.isPrivate(method.getModifiers())) {
-                due.holds(method + " is public and no more", method.getModifiers() == Modifier.PUBLIC);
-                methods.add(signature(method));
-            }
-        }
-        due.holds("the methods of the document and no others: " + methods, methods.equals(METHODS));
-        Set<String> constants = new TreeSet<>();
-        for (Field field : type.getDeclaredFields()) {
-            if (!Modifier.isPrivate(field.getModifiers())) {
-                constants.add(field.getName());
-                int wanted = Modifier.PUBLIC | Modifier.STATIC | Modifier.FINAL;
-                due.holds(field + " is a constant", field.getModifiers() == wanted && field.getType() == int.class);
-            }
-        }
-        due.holds("the constants of the document and no others: " + constants, constants.equals(CONSTANTS));
-        Constructor<?>[] constructors = type.getDeclaredConstructors();
-        due.is("constructors", constructors.length, 1);
-        due.holds("a public constructor without parameters", constructors[0].getModifiers() == Modifier.PUBLIC
-            && constructors[0].getParameterCount() == 0);
+    private static void classLine(String source) {
+        due.sentence("The public face", "public final class RegexSimplifier {");
+        int modifiers = RegexSimplifier.class.getModifiers();
+        due.holds("public and final and no more", modifiers == (Modifier.PUBLIC | Modifier.FINAL));
+        due.holds("without a package", RegexSimplifier.class.getName().equals("RegexSimplifier"));
+        due.holds("above it only what every class has", RegexSimplifier.class.getSuperclass() == Object.class
+            && RegexSimplifier.class.getInterfaces().length == 0);
+        due.holds("the line", source.contains("\npublic final class RegexSimplifier {\n"));
     }
 
-    private static String signature(Method method) {
-        StringBuilder text = new StringBuilder(method.getReturnType() + " " + method.getName() + "(");
-        for (Class<?> parameter : method.getParameterTypes()) {
-            text.append(text.charAt(text.length() - 1) == '(' ? "" : ",").append(parameter);
+    private static void constants(String source) throws Exception {
+        Set<String> wanted = new TreeSet<>();
+        for (String constant : CONSTANTS) {
+            String[] parts = constant.split(" = ");
+            wanted.add(parts[0]);
+            due.sentence("The public face", "public static final int " + constant + ";");
+            Field field = RegexSimplifier.class.getDeclaredField(parts[0]);
+            int modifiers = Modifier.PUBLIC | Modifier.STATIC | Modifier.FINAL;
+            due.holds(field + " is a constant", field.getModifiers() == modifiers && field.getType() == int.class);
+            due.is(parts[0], field.getInt(null), Long.parseLong(parts[1]));
+            due.holds("the line", source.contains("\n    public static final int " + constant + ";\n"));
         }
-        return text.append(")").toString();
+        Set<String> found = new TreeSet<>();
+        for (Field field : RegexSimplifier.class.getDeclaredFields()) {
+            if (!Modifier.isPrivate(field.getModifiers())) {
+                found.add(field.getName());
+            }
+        }
+        due.holds("these constants and no others: " + found, found.equals(wanted));
+    }
+
+    private static void constructor(String source) {
+        String[][] sentences = {{"The public face", "public RegexSimplifier();"}, {"Promise 1", "`RegexSimplifier()`"}};
+        for (String[] sentence : sentences) {
+            due.sentence(sentence[0], sentence[1]);
+            Constructor<?>[] constructors = RegexSimplifier.class.getDeclaredConstructors();
+            due.is("constructors", constructors.length, 1);
+            due.holds("public and without parameters", constructors[0].getModifiers() == Modifier.PUBLIC
+                && constructors[0].getParameterCount() == 0 && constructors[0].getExceptionTypes().length == 0);
+            due.holds("the line", source.contains("\n    public RegexSimplifier() {\n"));
+        }
+    }
+
+    private static void methods(String source) {
+        Set<String> wanted = new TreeSet<>();
+        Set<String> found = methodsFound();
+        for (int index = 0; index < METHODS.size(); index++) {
+            String line = METHODS.get(index);
+            String signature = line.replaceAll(" \\w+([,)])", "$1").replace(", ", ",");
+            wanted.add(signature);
+            due.sentence("The public face", "public " + line + ";");
+            due.holds("the line", source.contains("\n    public " + line + " {\n"));
+            due.sentence("Promise " + (index + 2), "`" + line + "`");
+            due.holds("a public method " + signature, found.contains(signature));
+        }
+        due.sentence("The public face", "public final class RegexSimplifier {");
+        due.holds("these methods and no others: " + found, found.equals(wanted));
+    }
+
+    private static Set<String> methodsFound() {
+        Set<String> found = new TreeSet<>();
+        for (Method method : RegexSimplifier.class.getDeclaredMethods()) {
+            if (Modifier.isPrivate(method.getModifiers())) {
+                continue;
+            }
+            due.holds(method + " is public and no more", method.getModifiers() == Modifier.PUBLIC);
+            due.is("exceptions of " + method, method.getExceptionTypes().length, 0);
+            StringJoiner parameters = new StringJoiner(",", "(", ")");
+            for (Class<?> parameter : method.getParameterTypes()) {
+                parameters.add(parameter.toString());
+            }
+            found.add(method.getReturnType() + " " + method.getName() + parameters);
+        }
+        return found;
     }
 
     private static void nestedClasses() {
@@ -94,8 +146,7 @@ public final class FaceTest {
         }
     }
 
-    private static void text() throws Exception {
-        String source = Files.readString(SOURCE, StandardCharsets.US_ASCII);
+    private static void text(String source) {
         String code = source.replaceAll("(?s)/\\*.*?\\*/", "").replaceAll("//.*", "");
         String[] words = {"throw", "throws", "try", "catch", "synchronized", "assert", "package", "volatile", "native",
             "transient", "protected", "double", "float", "Object", "Exception", "System.out", "Random", "Thread"};

@@ -93,7 +93,7 @@ public final class RefusedCallsTest {
     private static void addMalformed(List<Refused> calls) {
         for (long number : MALFORMED) {
             for (Taker taker : Taker.ALL) {
-                calls.add(new Refused("Promises 2 to 12", taker.callOf(number), -1, x -> taker.made().on(x, number)));
+                calls.add(new Refused(taker.heading(), taker.callOf(number), -1, x -> taker.made().on(x, number)));
             }
         }
     }
@@ -158,15 +158,16 @@ public final class RefusedCallsTest {
     }
 
     private static void stateStaysAfter(State state, Refused refused) {
-        due.sentence(refused.promise(), "An error never changes the state.");
+        due.sentence("Description", "An error never changes the state.");
         RegexSimplifier x = state.maker().make();
-        due.is(refused.text() + " when " + state.name(), refused.call().on(x), refused.answer());
-        checkState(state, "after " + refused.text() + " when " + state.name(), x);
+        String when = "when " + state.name() + " (" + refused.promise() + ")";
+        due.is(refused.text() + " " + when, refused.call().on(x), refused.answer());
+        checkState(state, "after " + refused.text() + " " + when, x);
     }
 
     /** One refused call after the other, as many as an object may have with the calls around them. */
     private static void stateStaysAfterAll(State state, List<Refused> calls) {
-        due.sentence("Promises 2 to 23", "An error never changes the state.");
+        due.sentence("Description", "An error never changes the state.");
         for (int from = 0; from < calls.size(); from += 300) {
             RegexSimplifier x = state.maker().make();
             for (Refused refused : calls.subList(from, Math.min(from + 300, calls.size()))) {

@@ -20,6 +20,7 @@ public final class SearchTest {
     }
 
     private static void ordinarySearches() {
+        due.sentence("Promise 21", "Returns the encoding of the smallest expression");
         search(1L, 1L, 0, 1);
         search(634L, 634L, 0, 1);
         search(613L, 3L, 1, 2);
@@ -34,6 +35,7 @@ public final class SearchTest {
 
     /** Several results have the smallest size; the one of the lower position or rule is met first. */
     private static void firstMetOfTheSmallest() {
+        due.sentence("Promise 21", "the one that was met first is the answer");
         search(6723733L, 76233L, 1, 3);
         search(6732733L, 73623L, 1, 3);
         search(6733723L, 76323L, 1, 3);
@@ -45,6 +47,7 @@ public final class SearchTest {
     }
 
     private static void searchFollowsTheState() {
+        due.sentence("Promise 23", "Returns how many expressions the search of smallest() meets");
         RegexSimplifier x = new RegexSimplifier();
         x.load(8683868384L);
         due.is("reachableCount()", x.reachableCount(), 11);

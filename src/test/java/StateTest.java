@@ -32,6 +32,7 @@ public final class StateTest {
     }
 
     private static void newObject() {
+        due.sentence("Promise 1", "The current expression is the empty set (encoding 1); there are no steps.");
         RegexSimplifier x = new RegexSimplifier();
         state("of a new object", x, 1L);
         due.is("applicableCount() of a new object", x.applicableCount(), 0);
@@ -45,6 +46,7 @@ public final class StateTest {
     }
 
     private static void loading() {
+        due.sentence("Promise 12", "Makes an expression the current one and forgets all steps.");
         RegexSimplifier x = new RegexSimplifier();
         due.is("load(888623)", x.load(888623L), 6);
         state("after load", x, 888623L);
@@ -62,6 +64,7 @@ public final class StateTest {
     }
 
     private static void applying() {
+        due.sentence("Promise 14", "Applies a rule to the current expression and records the step.");
         RegexSimplifier x = new RegexSimplifier();
         x.load(868384L);
         due.is("apply(13, 0)", x.apply(13, 0), 5);
@@ -81,6 +84,7 @@ public final class StateTest {
     }
 
     private static void simplifying() {
+        due.sentence("Promise 15", "Applies the first applicable step (firstRule at firstPosition)");
         RegexSimplifier x = new RegexSimplifier();
         x.load(6268283L);
         due.is("simplify() of 6268283", x.simplify(), 3);
@@ -100,6 +104,7 @@ public final class StateTest {
 
     /** Steps of simplify come behind those of apply, and only its own are counted. */
     private static void simplifyingFurther() {
+        due.sentence("Promise 15", "and records these steps");
         RegexSimplifier x = new RegexSimplifier();
         x.load(888623L);
         due.is("apply(6, 2)", x.apply(6, 2), 4);
@@ -114,6 +119,7 @@ public final class StateTest {
     }
 
     private static void undoing() {
+        due.sentence("Promise 16", "Takes back the latest steps");
         RegexSimplifier x = new RegexSimplifier();
         x.load(6268283L);
         x.simplify();
@@ -130,14 +136,27 @@ public final class StateTest {
         state("after undo(stepCount())", x, 6268283L);
     }
 
+    /** What is known of each step: its rule, its position and the expression behind it. */
     private static void recordedSteps() {
+        int[][] steps = {{1, 6}, {0, 2}, {0, 0}};
+        long[] behind = {6661341L, 66341L, 634L};
         RegexSimplifier x = new RegexSimplifier();
         x.load(666134713L);
-        state("after load", x, 666134713L);
-        due.is("apply(1, 6)", x.apply(1, 6), 7);
-        due.is("apply(0, 2)", x.apply(0, 2), 5);
-        due.is("apply(0, 0)", x.apply(0, 0), 3);
-        state("after three steps", x, 634L, 1, 6, 0, 2, 0, 0);
+        for (int taken = 1; taken <= steps.length; taken++) {
+            x.apply(steps[taken - 1][0], steps[taken - 1][1]);
+            due.sentence("Promise 13", "Returns its encoding.");
+            due.is("current() behind step " + taken, x.current(), behind[taken - 1]);
+            due.sentence("Promise 17", "Returns the number of steps.");
+            due.is("stepCount() behind step " + taken, x.stepCount(), taken);
+            due.sentence("Promise 18", "Returns the rule of a recorded step.");
+            for (int index = 0; index < taken; index++) {
+                due.is("stepRule(" + index + ") behind step " + taken, x.stepRule(index), steps[index][0]);
+            }
+            due.sentence("Promise 19", "Returns the position of a recorded step.");
+            for (int index = 0; index < taken; index++) {
+                due.is("stepPosition(" + index + ") behind step " + taken, x.stepPosition(index), steps[index][1]);
+            }
+        }
     }
 
     private static void pairs(long regex, int want) {
@@ -148,6 +167,7 @@ public final class StateTest {
     }
 
     private static void applicablePairs() {
+        due.sentence("Promise 20", "Returns the number of such pairs.");
         pairs(3L, 0);
         pairs(634L, 0);
         pairs(613L, 1);
@@ -166,6 +186,7 @@ public final class StateTest {
     }
 
     private static void objectsApart() {
+        due.sentence("Description", "An object holds one current expression");
         RegexSimplifier x = new RegexSimplifier();
         RegexSimplifier y = new RegexSimplifier();
         x.load(613L);
