@@ -6,11 +6,6 @@ public final class Boundaries08To11Test {
     /** Rule 3 at position 16 is the only step. */
     private static final String LAST_STEP = "737373737373737381";
 
-    /** For each rule an expression that no other rule is applicable to. */
-    private static final String[] ONE_RULE = {
-        "613", "713", "723", "81", "633", "883", "8623", "78383",
-        "6283", "6383", "6734735", "6735745", "627383", "86834", "878384", "63634"};
-
     public static void main(String[] args) {
         p08OneIfApplicableZeroIfNot();
         p08Malformed();
@@ -33,6 +28,10 @@ public final class Boundaries08To11Test {
         due.end();
     }
 
+    private static String oneRule(int rule) {
+        return Long.toString(Expressions.ONE_RULE[rule]);
+    }
+
     private static void applicable(String text, int rule, int position, int want) {
         String call = "isApplicable(" + text + ", " + rule + ", " + position + ")";
         due.is(call, new RegexSimplifier().isApplicable(Long.parseLong(text), rule, position), want);
@@ -47,7 +46,7 @@ public final class Boundaries08To11Test {
         due.sentence("Promise 8", "Returns 1 if it is applicable, 0 if it is not");
         for (int fitting = 0; fitting < 16; fitting++) {
             for (int rule = 0; rule < 16; rule++) {
-                applicable(ONE_RULE[fitting], rule, 0, rule == fitting ? 1 : 0);
+                applicable(oneRule(fitting), rule, 0, rule == fitting ? 1 : 0);
             }
         }
         for (int rule = 0; rule < 16; rule++) {
@@ -124,12 +123,10 @@ public final class Boundaries08To11Test {
 
     private static void p09RuleFrom0To15() {
         due.sentence("Promise 9", "`rule`: the number of a rule, 0 to 15");
-        long[] results = {3L, 1L, 3L, 2L, 3L, 83L, 83L, 83L,
-            83L, 83L, 73645L, 76345L, 83L, 8634L, 8634L, 634L};
         for (int rule = 0; rule < 16; rule++) {
-            rewritten(ONE_RULE[rule], rule, 0, results[rule]);
-            rewritten(ONE_RULE[rule], -1, 0, -2);
-            rewritten(ONE_RULE[rule], 16, 0, -2);
+            rewritten(oneRule(rule), rule, 0, Expressions.ONE_RULE_RESULTS[rule]);
+            rewritten(oneRule(rule), -1, 0, -2);
+            rewritten(oneRule(rule), 16, 0, -2);
         }
     }
 
@@ -187,7 +184,7 @@ public final class Boundaries08To11Test {
         for (int fitting = 0; fitting < 16; fitting++) {
             for (int rule = 0; rule < 16; rule++) {
                 if (rule != fitting) {
-                    rewritten(ONE_RULE[fitting], rule, 0, -4);
+                    rewritten(oneRule(fitting), rule, 0, -4);
                 }
             }
         }
@@ -213,7 +210,7 @@ public final class Boundaries08To11Test {
         first("7868384613", 1, 13);
         first(LAST_STEP, 16, 3);
         for (int rule = 0; rule < 16; rule++) {
-            first(ONE_RULE[rule], 0, rule);
+            first(oneRule(rule), 0, rule);
         }
     }
 
@@ -236,7 +233,7 @@ public final class Boundaries08To11Test {
     private static void p11SmallestRuleAtFirstPosition() {
         due.sentence("Promise 11", "the smallest rule number that is applicable at firstPosition(regex)");
         for (int rule = 0; rule < 16; rule++) {
-            first(ONE_RULE[rule], 0, rule);
+            first(oneRule(rule), 0, rule);
         }
         // Several rules at the first position.
         first("611", 0, 0);

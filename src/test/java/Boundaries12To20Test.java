@@ -140,14 +140,13 @@ public final class Boundaries12To20Test {
 
     private static void p14RuleFrom0To15() {
         due.sentence("Promise 14", "`rule`: the number of a rule, 0 to 15");
-        long[] expressions = {613L, 713L, 723L, 81L, 633L, 883L, 8623L, 78383L,
-            6283L, 6383L, 6734735L, 6735745L, 627383L, 86834L, 878384L, 63634L};
-        int[] sizes = {1, 1, 1, 1, 1, 2, 2, 2, 2, 2, 5, 5, 2, 4, 4, 3};
         for (int rule = 0; rule < 16; rule++) {
-            String of = ", 0) of " + expressions[rule];
-            due.is("apply(-1" + of, loaded(expressions[rule]).apply(-1, 0), -2);
-            due.is("apply(16" + of, loaded(expressions[rule]).apply(16, 0), -2);
-            due.is("apply(" + rule + of, loaded(expressions[rule]).apply(rule, 0), sizes[rule]);
+            RegexSimplifier x = loaded(Expressions.ONE_RULE[rule]);
+            String of = ", 0) of " + Expressions.ONE_RULE[rule];
+            due.is("apply(-1" + of, x.apply(-1, 0), -2);
+            due.is("apply(16" + of, x.apply(16, 0), -2);
+            due.holds("apply(" + rule + of + " is taken", x.apply(rule, 0) > 0);
+            due.is("current() after apply(" + rule + of, x.current(), Expressions.ONE_RULE_RESULTS[rule]);
         }
     }
 

@@ -13,6 +13,14 @@ final class Expressions {
         6634634634634634634L, 100000000000000000L, 633333333333333333L,
     };
 
+    /** For each rule an expression that no other rule is applicable to, at its root alone. */
+    static final long[] ONE_RULE = {613L, 713L, 723L, 81L, 633L, 883L, 8623L, 78383L,
+        6283L, 6383L, 6734735L, 6735745L, 627383L, 86834L, 878384L, 63634L};
+
+    /** What the rule makes of it. */
+    static final long[] ONE_RULE_RESULTS = {3L, 1L, 3L, 2L, 3L, 83L, 83L, 83L,
+        83L, 83L, 73645L, 76345L, 83L, 8634L, 8634L, 634L};
+
     private long seed;
 
     Expressions(long seed) {

@@ -17,6 +17,8 @@ public final class FaceTest {
     private static final Due due = new Due("FaceTest");
     private static final Path SOURCE = Path.of("src/main/java/RegexSimplifier.java");
 
+    private static final String CLASS_LINE = "public final class RegexSimplifier {";
+
     /** As the document has them and in its order: the first one is promise 2. */
     private static final List<String> METHODS = List.of(
         "int size(long regex)", "int starHeight(long regex)", "int matchesEmptyWord(long regex)",
@@ -33,27 +35,25 @@ public final class FaceTest {
         "LIMIT_EXCEEDED = -6", "NONE = -9");
 
     public static void main(String[] args) throws Exception {
-        String source = Files.readString(SOURCE, StandardCharsets.US_ASCII);
         nestedClasses();
-        text(source);
-        classLine(source);
-        constants(source);
-        constructor(source);
-        methods(source);
+        text();
+        classLine();
+        constants();
+        constructor();
+        methods();
         due.end();
     }
 
-    private static void classLine(String source) {
-        due.sentence("The public face", "public final class RegexSimplifier {");
+    private static void classLine() {
+        due.sentence("The public face", CLASS_LINE);
         int modifiers = RegexSimplifier.class.getModifiers();
         due.holds("public and final and no more", modifiers == (Modifier.PUBLIC | Modifier.FINAL));
         due.holds("without a package", RegexSimplifier.class.getName().equals("RegexSimplifier"));
         due.holds("above it only what every class has", RegexSimplifier.class.getSuperclass() == Object.class
             && RegexSimplifier.class.getInterfaces().length == 0);
-        due.holds("the line", source.contains("\npublic final class RegexSimplifier {\n"));
     }
 
-    private static void constants(String source) throws Exception {
+    private static void constants() throws Exception {
         Set<String> wanted = new TreeSet<>();
         for (String constant : CONSTANTS) {
             String[] parts = constant.split(" = ");
@@ -63,7 +63,6 @@ public final class FaceTest {
             int modifiers = Modifier.PUBLIC | Modifier.STATIC | Modifier.FINAL;
             due.holds(field + " is a constant", field.getModifiers() == modifiers && field.getType() == int.class);
             due.is(parts[0], field.getInt(null), Long.parseLong(parts[1]));
-            due.holds("the line", source.contains("\n    public static final int " + constant + ";\n"));
         }
         Set<String> found = new TreeSet<>();
         for (Field field : RegexSimplifier.class.getDeclaredFields()) {
@@ -71,10 +70,11 @@ public final class FaceTest {
                 found.add(field.getName());
             }
         }
+        due.sentence("The public face", CLASS_LINE);
         due.holds("these constants and no others: " + found, found.equals(wanted));
     }
 
-    private static void constructor(String source) {
+    private static void constructor() {
         String[][] sentences = {{"The public face", "public RegexSimplifier();"}, {"Promise 1", "`RegexSimplifier()`"}};
         for (String[] sentence : sentences) {
             due.sentence(sentence[0], sentence[1]);
@@ -82,23 +82,23 @@ public final class FaceTest {
             due.is("constructors", constructors.length, 1);
             due.holds("public and without parameters", constructors[0].getModifiers() == Modifier.PUBLIC
                 && constructors[0].getParameterCount() == 0 && constructors[0].getExceptionTypes().length == 0);
-            due.holds("the line", source.contains("\n    public RegexSimplifier() {\n"));
         }
     }
 
-    private static void methods(String source) {
-        Set<String> wanted = new TreeSet<>();
+    private static void methods() {
+        due.sentence("The public face", CLASS_LINE);
         Set<String> found = methodsFound();
+        Set<String> wanted = new TreeSet<>();
         for (int index = 0; index < METHODS.size(); index++) {
             String line = METHODS.get(index);
             String signature = line.replaceAll(" \\w+([,)])", "$1").replace(", ", ",");
             wanted.add(signature);
             due.sentence("The public face", "public " + line + ";");
-            due.holds("the line", source.contains("\n    public " + line + " {\n"));
+            due.holds("a public method " + signature, found.contains(signature));
             due.sentence("Promise " + (index + 2), "`" + line + "`");
             due.holds("a public method " + signature, found.contains(signature));
         }
-        due.sentence("The public face", "public final class RegexSimplifier {");
+        due.sentence("The public face", CLASS_LINE);
         due.holds("these methods and no others: " + found, found.equals(wanted));
     }
 
@@ -146,7 +146,8 @@ public final class FaceTest {
         }
     }
 
-    private static void text(String source) {
+    private static void text() throws Exception {
+        String source = Files.readString(SOURCE, StandardCharsets.US_ASCII);
         String code = source.replaceAll("(?s)/\\*.*?\\*/", "").replaceAll("//.*", "");
         String[] words = {"throw", "throws", "try", "catch", "synchronized", "assert", "package", "volatile", "native",
             "transient", "protected", "double", "float", "Object", "Exception", "System.out", "Random", "Thread"};

@@ -59,15 +59,13 @@ public final class RulesTest {
 
     private static void sixteenRules() {
         due.sentence("Description", "There are 16 rewrite rules.");
-        String[] fitting = {"613", "713", "723", "81", "633", "883", "8623", "78383",
-            "6283", "6383", "6734735", "6735745", "627383", "86834", "878384", "63634"};
-        for (int rule = 0; rule < 16; rule++) {
-            due.is("isApplicable of rule " + rule, new RegexSimplifier().isApplicable(Long.parseLong(fitting[rule]), rule, 0), 1);
-        }
-        for (String text : fitting) {
-            long regex = Long.parseLong(text);
-            due.is("isApplicable(" + text + ", 16, 0)", new RegexSimplifier().isApplicable(regex, 16, 0), -2);
-            due.is("isApplicable(" + text + ", -1, 0)", new RegexSimplifier().isApplicable(regex, -1, 0), -2);
+        for (int fitting = 0; fitting < 16; fitting++) {
+            long regex = Expressions.ONE_RULE[fitting];
+            for (int rule = -1; rule <= 16; rule++) {
+                String call = "isApplicable(" + regex + ", " + rule + ", 0)";
+                int want = rule == fitting ? 1 : rule < 0 || rule > 15 ? -2 : 0;
+                due.is(call, new RegexSimplifier().isApplicable(regex, rule, 0), want);
+            }
         }
     }
 
